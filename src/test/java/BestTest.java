@@ -1,0 +1,293 @@
+/** Promises 16 to 20: THE RULE, WORTH, CHOSEN STOPS, COUNTED, OFTEN. */
+public final class BestTest {
+    private static final int LOW = Integer.MIN_VALUE, HIGH = Integer.MAX_VALUE;
+
+    public static void main(String[] args) {
+        Check c = new Check("BestTest");
+        bestByHand(c);
+        bestByTrying(c);
+        worthByHand(c);
+        worthByTrying(c);
+        chosen(c);
+        counted(c);
+        c.finish();
+    }
+
+    private static void bestByHand(Check c) {
+        FlagWalk x = new FlagWalk();
+        for (int what = 0; what < 4; what++) {
+            c.due("nobody", x.best(50, what), -2);
+        }
+        for (int bad : new int[] {LOW, -1, 300, HIGH}) {
+            c.due("best(" + bad + "), nobody", x.best(bad, 0), -1);
+        }
+        for (int bad : new int[] {LOW, -1, 4, HIGH}) {
+            c.due("best what " + bad, x.best(5, bad), -1);
+        }
+        x.end(10);
+        x.person(0, 4, false);
+        int[] minutes = {9, 4, 3, 2};
+        for (int pace = 1; pace <= 4; pace++) {
+            c.due("in time by " + minutes[pace - 1], x.best(minutes[pace - 1], 0), pace);
+            c.due("BEGIN", x.best(minutes[pace - 1], 1), 0);
+            c.due("STAND", x.best(minutes[pace - 1], 2), 0);
+            c.due("LEAST OFF", x.best(minutes[pace - 1], 3), 0);
+        }
+        for (int what = 0; what < 4; what++) {
+            c.due("by none", x.best(1, what), -4);
+        }
+        c.due("BAD", x.best(300, 0), -1);
+        x.mark(3, 0, 1);
+        x.person(0, 1, false);
+        c.due("a TURN: she goes 1", x.best(299, 0), 1);
+        c.due("the rule stays", x.rule(0, 2), 2);
+        x = new FlagWalk();
+        x.end(10);
+        x.rule(4, 1);
+        x.mark(0, 5, 1);
+        x.mark(0, 9, 3);
+        x.person(0, 1, false);
+        x.person(2, 2, false);
+        c.due("LEAST OFF", x.best(299, 3), 4);
+    }
+
+    /** All that THE RULE tells, by setting each and asking the walk. */
+    private static int[] tried(FlagWalk x, int minute) {
+        int[] best = {-4, -4, -4, -4};
+        for (int pace = 1; pace <= 4; pace++) {
+            for (int begin = 0; begin <= 10; begin++) {
+                for (int stand = 0; stand <= 4; stand++) {
+                    x.rule(0, pace);
+                    x.rule(1, begin);
+                    x.rule(2, stand);
+                    int there = x.all(3);
+                    if (there >= 0 && there <= minute && x.all(1) > best[3]) {
+                        best = new int[] {pace, begin, stand, x.all(1)};
+                    }
+                }
+            }
+        }
+        return best;
+    }
+
+    private static void bestByTrying(Check c) {
+        for (int seed = 1; seed <= 250; seed++) {
+            Check.Row row = new Check.Row(20000 + seed);
+            Plain p = Plain.some(row);
+            if (p.people.isEmpty()) {
+                p.people.add(new int[] {0, 2, 0});
+            }
+            FlagWalk x = p.made();
+            FlagWalk y = p.made();
+            int minute = row.once(4) ? 299 : row.between(10, 120);
+            int[] due = tried(y, minute);
+            c.due("seed " + seed + " walk ahead", x.all(0), p.made().all(0));
+            int first = row.between(0, 3);
+            for (int k = 0; k < 4; k++) {
+                int what = (first + k) % 4;
+                c.due("seed " + seed + " best(" + minute + ", " + what + ")", x.best(minute, what), due[what]);
+            }
+            int other = row.between(10, 120);
+            int[] dueOther = tried(y, other);
+            c.due("seed " + seed + " best(" + other + ", 3)", x.best(other, 3), dueOther[3]);
+            c.due("seed " + seed + " walk behind", x.all(0), p.made().all(0));
+            for (int r = 0; r < 5; r++) {
+                c.due("seed " + seed + " rule " + r, x.rule(r, p.rules[r]), p.rules[r]);
+            }
+            p.rules[4] = 1 + p.rules[4] % 6;
+            p.people.remove(0);
+            p.people.add(new int[] {1, 1, 1});
+            StringBuilder text = new StringBuilder();
+            for (int[] one : p.people) {
+                text.append(text.length() == 0 ? "" : ",").append("plot".charAt(one[0])).append(one[1]).append(one[2] == 1 ? "e" : "");
+            }
+            Check.group(x, text.toString());
+            x.rule(4, p.rules[4]);
+            int[] changed = tried(p.made(), minute);
+            for (int what = 0; what < 4; what++) {
+                c.due("seed " + seed + " changed best " + what, x.best(minute, what), changed[what]);
+            }
+        }
+    }
+
+    private static void worthByHand(Check c) {
+        FlagWalk x = new FlagWalk();
+        for (int bad : new int[] {LOW, -1, 0, 10, HIGH}) {
+            c.due("worth of nobody " + bad, x.worth(bad), -100001);
+        }
+        x.rule(0, 4);
+        x.rule(1, 0);
+        x.rule(4, 1);
+        x.mark(0, 4, 4);
+        x.person(0, 1, true);
+        x.person(0, 1, false);
+        c.due("the box", x.worth(0), 2);
+        c.due("neither", x.worth(1), -100002);
+        c.due("BAD", x.worth(2), -100001);
+        c.due("the box is still there", x.of(0, 2), 1);
+        c.due("the box again", x.worth(0), 2);
+        c.due("HEARD", x.all(0), 6);
+        x = new FlagWalk();
+        x.rule(0, 4);
+        x.rule(1, 0);
+        x.rule(4, 5);
+        x.mark(3, 0, 3);
+        x.mark(0, 4, 3);
+        x.person(0, 1, false);
+        x.person(3, 4, false);
+        // With THE TAIL both hear all 3; without, the PLAIN ones are LOST at 0.
+        c.due("THE TAIL", x.worth(1), 6);
+        c.due("neither", x.worth(0), -100002);
+        c.due("THE TAIL is still there", x.of(1, 0), 3);
+    }
+
+    private static void worthByTrying(Check c) {
+        int below = 0;
+        for (int seed = 1; seed <= 400; seed++) {
+            Check.Row row = new Check.Row(40000 + seed);
+            Plain p = Plain.some(row);
+            FlagWalk x = p.made();
+            p.run();
+            int together = p.heardTogether();
+            for (int i = 0; i < p.people.size(); i++) {
+                int[] one = p.people.get(i);
+                int due = -100002;
+                if (one[0] == 3 || one[2] == 1) {
+                    p.people.set(i, one[0] == 3 ? new int[] {0, one[1], one[2]} : new int[] {one[0], one[1], 0});
+                    p.run();
+                    due = together - p.heardTogether();
+                    p.people.set(i, one);
+                    below += due < 0 ? 1 : 0;
+                }
+                c.due("seed " + seed + " worth(" + i + ")", x.worth(i), due);
+            }
+            c.due("seed " + seed + " HEARD as it was", x.all(0), together);
+        }
+        c.due("some are worth less than nothing", below > 0 ? 1 : 0, 1);
+    }
+
+    private static void chosen(Check c) {
+        FlagWalk x = new FlagWalk();
+        for (int bad : new int[] {LOW, -1, 1000, HIGH}) {
+            c.due("chosen(" + bad + ")", x.chosen(bad, 0), -1);
+        }
+        for (int bad : new int[] {LOW, -1, 2, HIGH}) {
+            c.due("chosen what " + bad, x.chosen(5, bad), -1);
+        }
+        c.due("no time, BAD", x.chosen(0, 2), -1);
+        x.rule(0, 3);
+        c.due("40 by 3, cut up, is 14", x.chosen(13, 0), -4);
+        c.due("VALUE too", x.chosen(13, 1), -4);
+        c.due("without STOPS", x.chosen(14, 1), 0);
+        x.mark(0, 40, 1);
+        x.mark(0, 10, 5);
+        x.mark(0, 5, 5);
+        x.mark(0, 20, 5);
+        c.due("of like ones the least set", x.chosen(19, 0), 2);
+        c.due("not one that is not met", x.chosen(999, 0), 14);
+        c.due("VALUE", x.chosen(999, 1), 30);
+        x.value(3, 11);
+        c.due("of most VALUE", x.chosen(23, 0), 8);
+        c.due("two", x.chosen(24, 0), 10);
+        c.due("VALUE of two", x.chosen(24, 1), 21);
+        x.value(1, 0);
+        c.due("one of no VALUE is left out", x.chosen(999, 0), 12);
+        x.end(41);
+        c.due("met then", x.chosen(999, 0), 13);
+        for (int seed = 1; seed <= 300; seed++) {
+            chosenSeed(c, new Check.Row(60000 + seed), "seed " + seed);
+        }
+    }
+
+    private static void chosenSeed(Check c, Check.Row row, String what) {
+        FlagWalk x = new FlagWalk();
+        int end = row.between(10, 99);
+        int pace = row.between(1, 4);
+        int n = row.between(0, 8);
+        int[][] stops = new int[n][];
+        x.end(end);
+        x.rule(0, pace);
+        for (int i = 0; i < n; i++) {
+            stops[i] = new int[] {10 * i + row.between(0, 9), row.between(1, 20), row.between(0, 12)};
+            x.mark(0, stops[i][0], stops[i][1]);
+            x.value(i, stops[i][2]);
+        }
+        int minutes = row.between(0, 150);
+        int dueSet = -4;
+        int dueValue = -4;
+        for (int set = 0; set < 1 << n; set++) {
+            int time = end / pace + (end % pace == 0 ? 0 : 1);
+            int sum = 0;
+            for (int i = 0; i < n; i++) {
+                if ((set & 1 << i) != 0) {
+                    time += stops[i][0] < end ? stops[i][1] : 5000;
+                    sum += stops[i][2];
+                }
+            }
+            if (time <= minutes && sum > dueValue) {
+                dueSet = set;
+                dueValue = sum;
+            }
+        }
+        c.due(what + " the set", x.chosen(minutes, 0), dueSet);
+        c.due(what + " VALUE", x.chosen(minutes, 1), dueValue);
+    }
+
+    private static void counted(Check c) {
+        FlagWalk x = new FlagWalk();
+        x.mark(0, 45, 1);
+        c.due("no STOP is met", x.counted(1, 1, 1, 1), -2);
+        c.due("no STOP is met", x.often(1, 1, 1), -2);
+        for (int n = 0; n <= 7; n++) {
+            for (int bad : new int[] {LOW, -1, HIGH}) {
+                c.due("k " + bad, x.counted(bad, 1, 1, 1), -1);
+                c.due("c " + bad, x.counted(1, bad, 1, 1), -1);
+                c.due("m " + bad, x.counted(1, 1, bad, 1), -1);
+                c.due("e " + bad, x.counted(1, 1, 1, bad), -1);
+                c.due("often c " + bad, x.often(bad, 1, 1), -1);
+                c.due("often m " + bad, x.often(1, bad, 1), -1);
+                c.due("often e " + bad, x.often(1, 1, bad), -1);
+            }
+            c.due("k 0", x.counted(0, 1, 1, 1), -1);
+            c.due("k 9", x.counted(9, 1, 1, 1), -1);
+            c.due("c 10", x.counted(8, 10, 1, 1), -1);
+            c.due("m 31", x.counted(8, 1, 31, 1), -1);
+            c.due("e 100", x.counted(8, 1, 1, 100), -1);
+            c.due("often c 10", x.often(10, 1, 1), -1);
+            c.due("often m 31", x.often(1, 31, 1), -1);
+            c.due("often e 100", x.often(1, 1, 100), -1);
+            if (n > 0) {
+                countedOf(c, x, n);
+            }
+            x.mark(0, 30 - n, 1);
+        }
+    }
+
+    private static int cost(int n, int k, int c, int m, int e) {
+        int cost = 0;
+        for (int stop = 1; stop <= n; stop++) {
+            cost += stop % k == 0 || stop == n ? 100 * c : 0;
+            int found = stop;
+            while (found % k != 0 && found != n) {
+                found++;
+                cost += e * m;
+            }
+        }
+        return cost;
+    }
+
+    private static void countedOf(Check check, FlagWalk x, int n) {
+        for (int c = 0; c <= 9; c += 3) {
+            for (int m = 0; m <= 30; m += 10) {
+                for (int e = 0; e <= 99; e += 11) {
+                    int often = 1;
+                    for (int k = 1; k <= 8; k++) {
+                        check.due(n + " STOPS, k " + k, x.counted(k, c, m, e), cost(n, k, c, m, e));
+                        often = cost(n, k, c, m, e) < cost(n, often, c, m, e) ? k : often;
+                    }
+                    check.due(n + " STOPS, often " + c + " " + m + " " + e, x.often(c, m, e), often);
+                }
+            }
+        }
+    }
+}
