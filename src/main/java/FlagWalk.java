@@ -1181,7 +1181,7 @@ public final class FlagWalk {
     /** FLAGS, of which some meet, and a row of colours for them. */
     private static final class Flags {
         int size = 0;
-        // Whom each meets, as a set.
+        // Whom of those ahead of it each meets, as a set.
         final int[] meets = new int[FLAGS];
         final int[] row = new int[FLAGS];
 
@@ -1194,7 +1194,6 @@ public final class FlagWalk {
             for (int a = 0; a < n; a++) {
                 for (int b = a + 1; b < n; b++) {
                     if ((pairs >> bit & 1) == 1) {
-                        meets[a] |= 1 << b;
                         meets[b] |= 1 << a;
                     }
                     bit++;

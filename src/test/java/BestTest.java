@@ -5,6 +5,8 @@ public final class BestTest {
     public static void main(String[] args) {
         Check c = new Check("BestTest");
         bestByHand(c);
+        bestStands(c);
+        bestIsSoughtAnew(c);
         bestByTrying(c);
         worthByHand(c);
         worthByTrying(c);
@@ -51,6 +53,67 @@ public final class BestTest {
         c.due("LEAST OFF", x.best(299, 3), 4);
     }
 
+    /** STANDS up to 4 are tried, and no others. */
+    private static void bestStands(Check c) {
+        FlagWalk x = new FlagWalk();
+        x.end(11);
+        x.rule(3, 12);
+        x.rule(4, 1);
+        Check.way(x, "s3:2;s1:2;l1:4");
+        Check.group(x, "t2,o3e,p3");
+        int[] due = {1, 0, 4, 4};
+        for (int what = 0; what < 4; what++) {
+            c.due("STAND 4: best(42, " + what + ")", x.best(42, what), due[what]);
+        }
+        x = new FlagWalk();
+        x.end(14);
+        x.rule(3, 2);
+        x.rule(4, 2);
+        Check.way(x, "s5:2;s11:3");
+        Check.group(x, "o1e,t3");
+        c.due("without STAND 5", x.best(33, 3), 4);
+        x.rule(2, 5);
+        int most = -4;
+        for (int pace = 1; pace <= 4; pace++) {
+            for (int begin = 0; begin <= 3; begin++) {
+                x.rule(0, pace);
+                x.rule(1, begin);
+                most = x.all(3) >= 0 && x.all(3) <= 33 ? Math.max(most, x.all(1)) : most;
+            }
+        }
+        c.due("with STAND 5 it would be", most, 5);
+    }
+
+    /** Asked for one MINUTE ahead of and behind each call that changes what is best. */
+    private static void bestIsSoughtAnew(Check c) {
+        FlagWalk x = new FlagWalk();
+        x.rule(4, 2);
+        x.image();
+        c.due("nobody", x.best(60, 3), -2);
+        x.person(0, 2, false);
+        c.due("nothing spoken", x.best(60, 3), 0);
+        x.mark(0, 5, 4);
+        c.due("a STOP", x.best(60, 3), 4);
+        x.end(99);
+        c.due("too far for PACE 1", x.best(60, 0), 2);
+        Check.way(x, "s5:6");
+        c.due("a new way", x.best(60, 3), 6);
+        Check.group(x, "p1");
+        c.due("a slow one", x.best(60, 3), -4);
+        x.end(10);
+        c.due("not so far", x.best(60, 0), 1);
+        x.person(2, 1, false);
+        x.rule(3, 0);
+        c.due("one more, without PATIENCE", x.best(60, 3), 6);
+        x.rule(4, 1);
+        // The OLD one is at 3 behind 4 and 5, at 4 behind 6: of 5 .. 10 it hears 7 .. 10.
+        c.due("less REACH", x.best(60, 3), 4);
+        x.restore();
+        c.due("nobody", x.best(60, 3), -2);
+        x.person(0, 1, false);
+        c.due("nothing spoken", x.best(60, 3), 0);
+    }
+
     /** All that THE RULE tells, by setting each and asking the walk. */
     private static int[] tried(FlagWalk x, int minute) {
         int[] best = {-4, -4, -4, -4};
@@ -94,6 +157,7 @@ public final class BestTest {
             for (int r = 0; r < 5; r++) {
                 c.due("seed " + seed + " rule " + r, x.rule(r, p.rules[r]), p.rules[r]);
             }
+            c.due("seed " + seed + " best again", x.best(minute, 3), due[3]);
             p.rules[4] = 1 + p.rules[4] % 6;
             p.people.remove(0);
             p.people.add(new int[] {1, 1, 1});
@@ -238,7 +302,7 @@ public final class BestTest {
         x.mark(0, 45, 1);
         c.due("no STOP is met", x.counted(1, 1, 1, 1), -2);
         c.due("no STOP is met", x.often(1, 1, 1), -2);
-        for (int n = 0; n <= 7; n++) {
+        for (int n = 0; n <= 8; n++) {
             for (int bad : new int[] {LOW, -1, HIGH}) {
                 c.due("k " + bad, x.counted(bad, 1, 1, 1), -1);
                 c.due("c " + bad, x.counted(1, bad, 1, 1), -1);
@@ -259,7 +323,11 @@ public final class BestTest {
             if (n > 0) {
                 countedOf(c, x, n);
             }
-            x.mark(0, 30 - n, 1);
+            if (n == 7) {
+                x.end(46);
+            } else {
+                x.mark(0, 30 - n, 1);
+            }
         }
     }
 
@@ -277,9 +345,9 @@ public final class BestTest {
     }
 
     private static void countedOf(Check check, FlagWalk x, int n) {
-        for (int c = 0; c <= 9; c += 3) {
-            for (int m = 0; m <= 30; m += 10) {
-                for (int e = 0; e <= 99; e += 11) {
+        for (int c = 0; c <= 9; c++) {
+            for (int m = 0; m <= 30; m += 5) {
+                for (int e = 0; e <= 99; e++) {
                     int often = 1;
                     for (int k = 1; k <= 8; k++) {
                         check.due(n + " STOPS, k " + k, x.counted(k, c, m, e), cost(n, k, c, m, e));

@@ -95,6 +95,11 @@ public final class SheetTest {
         x.item(1, 0, 1, 1);
         x.item(1, 0, 3, 1);
         c.due("0s", x.slots(1, 0, 0, 2, -1), 1);
+        put(x, 1, 2, 9, 9, 9, 9);
+        x.sheet(1, 2, 4);
+        x.item(1, 2, 1, 1);
+        x.item(1, 2, 3, 5);
+        c.due("0s, not what was there", x.slots(1, 2, 0, 2, -1), 1);
     }
 
     private static void copies(Check c) {
@@ -121,6 +126,13 @@ public final class SheetTest {
         c.due("nothing at the ends", x.copy(0, 6, 1, 4, 0), 0);
         c.due("all that fit", x.copy(0, 2, 1, 0, 4), 4);
         c.due("to itself", x.copy(0, 0, 0, 0, 6), 6);
+        for (int lane = 0; lane < 3; lane++) {
+            x.sheet(0, lane, 3);
+            x.sheet(1, lane, 3);
+            c.due("of LANE " + lane, x.copy(0, 0, 1, 0, 3), 3);
+            x.sheet(1, (lane + 1) % 3, 3);
+            c.due("to another LANE than " + lane, x.copy(0, 0, 1, 0, 3), -12);
+        }
     }
 
     /** The items of a SHEET of shorts, each told by what SLOTS say of it as a MINUTE: who goes first, who waits. */

@@ -279,8 +279,9 @@ public final class SquareTest {
             x.best(80, 0);
             x.image();
             fill(x, new Check.Row(1000 + seed));
-            x.all(0);
-            x.best(80, 0);
+            FlagWalk z = new FlagWalk();
+            fill(z, new Check.Row(1000 + seed));
+            tellAll(c, "seed " + seed + " filled anew", x, z);
             x.restore();
             tellAll(c, "seed " + seed, x, y);
             for (int r = 0; r < 5; r++) {
