@@ -19,6 +19,7 @@ public final class BestTest {
         FlagWalk x = new FlagWalk();
         for (int what = 0; what < 4; what++) {
             c.due("nobody", x.best(50, what), -2);
+            c.due("nobody by 0", x.best(0, what), -2);
         }
         for (int bad : new int[] {LOW, -1, 300, HIGH}) {
             c.due("best(" + bad + "), nobody", x.best(bad, 0), -1);
@@ -37,6 +38,7 @@ public final class BestTest {
         }
         for (int what = 0; what < 4; what++) {
             c.due("by none", x.best(1, what), -4);
+            c.due("by none by 0", x.best(0, what), -4);
         }
         c.due("BAD", x.best(300, 0), -1);
         x.mark(3, 0, 1);
@@ -51,6 +53,9 @@ public final class BestTest {
         x.person(0, 1, false);
         x.person(2, 2, false);
         c.due("LEAST OFF", x.best(299, 3), 4);
+        x.end(99);
+        Check.way(x, "s1:1;s2:1;s3:1;s4:1;s5:1;s6:1;s7:1;s98:1");
+        c.due("eight STOPS", x.best(299, 3), 8);
     }
 
     /** STANDS up to 4 are tried, and no others. */

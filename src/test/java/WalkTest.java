@@ -61,6 +61,8 @@ public final class WalkTest {
     }
 
     private static void nobody(Check c) {
+        c.due("a new object", new FlagWalk().all(2), 19);
+        c.due("a new object", new FlagWalk().at(0, -1), 2);
         FlagWalk x = led(4, 0, 0, 10, 3);
         x.end(10);
         places(c, "nobody", x, -1, 4, 8, 10, 10);
