@@ -1,11 +1,32 @@
-/** What the tests share: due answers, texts onto THE TAPE, numbers that are the same in every run. */
+/** What the tests share: due answers, a led way, texts onto THE TAPE, numbers that are the same in every run. */
 final class Check {
+    static final int LOW = Integer.MIN_VALUE, HIGH = Integer.MAX_VALUE;
+    static final int BAD = -1, NOT = -2, FULL = -3, NONE = -4, NULL = -11, CAST = -12, INDEX = -13, SIZE = -14;
+
     private final String name;
     private int calls = 0;
     private int wrong = 0;
+    private int sentences = 0;
+    private String sentence = "";
+    private int callsAhead = 0;
 
     Check(String name) {
         this.name = name;
+    }
+
+    /** From here on, till the next, the answers hold this sentence of the document. */
+    void sentence(String promise, String words) {
+        endSentence();
+        sentences++;
+        sentence = "[" + promise + ": \"" + words + "\"] ";
+        callsAhead = calls;
+    }
+
+    /** A sentence that no answer holds is not tested. */
+    private void endSentence() {
+        if (sentences > 0 && calls == callsAhead) {
+            due("a test of the sentence", 0, 1);
+        }
     }
 
     void due(String call, long got, long want) {
@@ -13,17 +34,43 @@ final class Check {
         if (got != want) {
             wrong++;
             if (wrong <= 40) {
-                System.out.println(name + ": " + call + " answered " + got + ", due is " + want);
+                System.out.println(name + ": " + sentence + call + " answered " + got + ", due is " + want);
             }
         }
     }
 
     /** Ends the test: exit code 1, if an answer was not the one that is due. */
     void finish() {
-        System.out.println(name + ": " + calls + " answers, " + wrong + " not as due");
+        endSentence();
+        String held = sentences > 0 ? sentences + " sentences, " : "";
+        System.out.println(name + ": " + held + calls + " answers, " + wrong + " not as due");
         if (wrong != 0) {
             System.exit(1);
         }
+    }
+
+    /** An object with all RULES told. */
+    static FlagWalk led(int pace, int begin, int stand, int patience, int reach) {
+        FlagWalk x = new FlagWalk();
+        x.rule(0, pace);
+        x.rule(1, begin);
+        x.rule(2, stand);
+        x.rule(3, patience);
+        x.rule(4, reach);
+        return x;
+    }
+
+    /** The PLACES of one behind the first MINUTES. */
+    void places(String what, FlagWalk x, int who, int... due) {
+        for (int minute = 0; minute < due.length; minute++) {
+            due(what + ": at(" + minute + ", " + who + ")", x.at(minute, who), due[minute]);
+        }
+    }
+
+    /** She is at a PLACE up to a MINUTE, and farther behind it. */
+    void leaves(String what, FlagWalk x, int place, int minute) {
+        due(what + ": at(" + (minute - 1) + ", -1)", x.at(minute - 1, -1), place);
+        due(what + ": farther behind " + minute, x.at(minute, -1) > place ? 1 : 0, 1);
     }
 
     /** Puts a text of signs 32 to 126 behind THE TAPE, by up to eight of them a call. */
