@@ -1,6 +1,6 @@
 /** Promises 16 to 20: THE RULE, WORTH, CHOSEN STOPS, COUNTED, OFTEN. */
 public final class BestTest {
-    private static final int LOW = Integer.MIN_VALUE, HIGH = Integer.MAX_VALUE;
+    private static final int LOW = Check.LOW, HIGH = Check.HIGH;
 
     public static void main(String[] args) {
         Check c = new Check("BestTest");
@@ -120,9 +120,10 @@ public final class BestTest {
     }
 
     /** All that THE RULE tells, by setting each and asking the walk. */
-    private static int[] tried(FlagWalk x, int minute) {
+    private static int[] tried(Plain p, int minute) {
         int[] best = {-4, -4, -4, -4};
         for (int pace = 1; pace <= 4; pace++) {
+            FlagWalk x = p.made();
             for (int begin = 0; begin <= 10; begin++) {
                 for (int stand = 0; stand <= 4; stand++) {
                     x.rule(0, pace);
@@ -146,9 +147,8 @@ public final class BestTest {
                 p.people.add(new int[] {0, 2, 0});
             }
             FlagWalk x = p.made();
-            FlagWalk y = p.made();
             int minute = row.once(4) ? 299 : row.between(10, 120);
-            int[] due = tried(y, minute);
+            int[] due = tried(p, minute);
             c.due("seed " + seed + " walk ahead", x.all(0), p.made().all(0));
             int first = row.between(0, 3);
             for (int k = 0; k < 4; k++) {
@@ -156,7 +156,7 @@ public final class BestTest {
                 c.due("seed " + seed + " best(" + minute + ", " + what + ")", x.best(minute, what), due[what]);
             }
             int other = row.between(10, 120);
-            int[] dueOther = tried(y, other);
+            int[] dueOther = tried(p, other);
             c.due("seed " + seed + " best(" + other + ", 3)", x.best(other, 3), dueOther[3]);
             c.due("seed " + seed + " walk behind", x.all(0), p.made().all(0));
             for (int r = 0; r < 5; r++) {
@@ -172,7 +172,7 @@ public final class BestTest {
             }
             Check.group(x, text.toString());
             x.rule(4, p.rules[4]);
-            int[] changed = tried(p.made(), minute);
+            int[] changed = tried(p, minute);
             for (int what = 0; what < 4; what++) {
                 c.due("seed " + seed + " changed best " + what, x.best(minute, what), changed[what]);
             }
@@ -303,11 +303,10 @@ public final class BestTest {
     }
 
     private static void counted(Check c) {
-        FlagWalk x = new FlagWalk();
-        x.mark(0, 45, 1);
-        c.due("no STOP is met", x.counted(1, 1, 1, 1), -2);
-        c.due("no STOP is met", x.often(1, 1, 1), -2);
+        c.due("no STOP is met", withStops(0).counted(1, 1, 1, 1), -2);
+        c.due("no STOP is met", withStops(0).often(1, 1, 1), -2);
         for (int n = 0; n <= 8; n++) {
+            FlagWalk x = withStops(n);
             for (int bad : new int[] {LOW, -1, HIGH}) {
                 c.due("k " + bad, x.counted(bad, 1, 1, 1), -1);
                 c.due("c " + bad, x.counted(1, bad, 1, 1), -1);
@@ -326,14 +325,22 @@ public final class BestTest {
             c.due("often m 31", x.often(1, 31, 1), -1);
             c.due("often e 100", x.often(1, 1, 100), -1);
             if (n > 0) {
-                countedOf(c, x, n);
-            }
-            if (n == 7) {
-                x.end(46);
-            } else {
-                x.mark(0, 30 - n, 1);
+                countedOf(c, n);
             }
         }
+    }
+
+    /** So many STOPS are met; of eight one was not, ahead of a new END. */
+    private static FlagWalk withStops(int n) {
+        FlagWalk x = new FlagWalk();
+        x.mark(0, 45, 1);
+        for (int i = 0; i < n && i < 7; i++) {
+            x.mark(0, 30 - i, 1);
+        }
+        if (n == 8) {
+            x.end(46);
+        }
+        return x;
     }
 
     private static int cost(int n, int k, int c, int m, int e) {
@@ -349,10 +356,11 @@ public final class BestTest {
         return cost;
     }
 
-    private static void countedOf(Check check, FlagWalk x, int n) {
+    private static void countedOf(Check check, int n) {
         for (int c = 0; c <= 9; c++) {
             for (int m = 0; m <= 30; m += 5) {
                 for (int e = 0; e <= 99; e++) {
+                    FlagWalk x = withStops(n);
                     int often = 1;
                     for (int k = 1; k <= 8; k++) {
                         check.due(n + " STOPS, k " + k, x.counted(k, c, m, e), cost(n, k, c, m, e));

@@ -41,7 +41,8 @@ public final class EdgeBestTest {
     }
 
     private static void bestBounds(Check c) {
-        c.sentence("16 best", "THE RULE for a MINUTE (0 .. 299): PACE (0), BEGIN (1), STAND (2), the LEAST OFF (3). BAD;");
+        c.sentence("16 best", "THE RULE for a MINUTE (0 .. 299): PACE (0), BEGIN (1), STAND (2),"
+                + " the LEAST OFF (3). BAD;");
         FlagWalk x = new FlagWalk();
         x.person(0, 1, false);
         for (int bad : new int[] {LOW, -1, 300, HIGH}) {
@@ -86,6 +87,12 @@ public final class EdgeBestTest {
         x.person(0, 2, false);
         rule(c, "another comes in 4", x, 4, 2, 0, 0, 0);
         none(c, "another comes in 4", x, 3);
+        x.mark(2, 1, 20);
+        Check.group(x, "l4");
+        // At the WINDOW behind 0 .. 20, at 10 behind 23.
+        none(c, "looking", x, 5);
+        none(c, "looking", x, 22);
+        rule(c, "one who looks comes in 23", x, 23, 1, 0, 0, 0);
     }
 
     private static void bestInTimeByTheLastMinute(Check c) {
@@ -334,6 +341,11 @@ public final class EdgeBestTest {
         // As a PLAIN one it is NEAR, the second for BEGIN 2: nothing is waited, and both hear all of 140.
         c.due("THE TAIL, behind the one at 0", x.worth(2), 131 - 280);
         c.due("HEARD", x.all(0), 131);
+        FlagWalk y = Check.led(4, 0, 0, 0, 1);
+        y.mark(0, 4, 5);
+        y.person(2, 1, true);
+        // He goes in 0, 2, 4: 3 off ahead of 1, 1 off ahead of 5. She speaks in 1 .. 5.
+        c.due("without the box from MINUTE 0 on, too", y.worth(0), 4);
     }
 
     private static void worthChangesNothing(Check c) {

@@ -65,7 +65,8 @@ public final class EdgeSheetTest {
             c.due("the last of " + n, x.slots(0, 0, 0, n, n - 1), n - 1);
         }
 
-        c.sentence("26 slots", "---- 4 sheets 0 .. 3: nothing (at first), or a row of a LANE: 0 bytes, 1 shorts, 2 ints");
+        c.sentence("26 slots", "---- 4 sheets 0 .. 3: nothing (at first), or a row of a LANE:"
+                + " 0 bytes, 1 shorts, 2 ints");
         for (int bad : new int[] {LOW, -1, 4, HIGH}) {
             c.due("slots(" + bad + ", 0, 0, 2, -1)", x.slots(bad, 0, 0, 2, -1), BAD);
         }

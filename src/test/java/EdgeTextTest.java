@@ -212,6 +212,7 @@ public final class EdgeTextTest {
         c.due("nobody is LOST", x.fate(0, 3), -4);
         c.due("she is at the END", x.all(2), 19);
         c.due("he looks at 9 for 2 MINUTES", x.fate(0, 2), 41);
+        c.due("RESTED", x.fate(0, 1), 0);
     }
 
     private static void wayTakenPlaces(Check c) {

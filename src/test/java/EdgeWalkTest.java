@@ -170,7 +170,7 @@ public final class EdgeWalkTest {
         beginNobody(c);
     }
 
-    /** A STOP at 4 of LENGTH 1: she is there behind 0, one with her; one more is NEAR ahead of 3, the last ahead of 5. */
+    /** A STOP at 4 of LENGTH 1: she is there behind 0, one with her; one more is NEAR ahead of 3, another ahead of 5. */
     private static void beginAsMany(Check c) {
         c.sentence("15 all", "if as many as BEGIN (or all that are not LOST) are NEAR");
         int[] leaves = {2, 2, 4, 6, 6};
@@ -799,7 +799,8 @@ public final class EdgeWalkTest {
     // ---- the calls
 
     private static void fate(Check c) {
-        c.sentence("13 fate", "Of one of PEOPLE: 0 HEARD, 1 RESTED, 2 THERE, 3 LOST at which TURN's PLACE (NONE). BAD.");
+        c.sentence("13 fate", "Of one of PEOPLE: 0 HEARD, 1 RESTED, 2 THERE, 3 LOST at which TURN's PLACE (NONE)."
+                + " BAD.");
         FlagWalk x = new FlagWalk();
         for (int bad : new int[] {LOW, -1, 0, HIGH}) {
             c.due("nobody: fate(" + bad + ", 0)", x.fate(bad, 0), BAD);

@@ -1,6 +1,6 @@
 /** Promises 26 to 30: SLOTS, SHEETS. */
 public final class SheetTest {
-    private static final int LOW = Integer.MIN_VALUE, HIGH = Integer.MAX_VALUE;
+    private static final int LOW = Check.LOW, HIGH = Check.HIGH;
 
     public static void main(String[] args) {
         Check c = new Check("SheetTest");
@@ -36,6 +36,7 @@ public final class SheetTest {
         }
         c.due("nothing was made", x.drop(0), -11);
         for (int sheet = 0; sheet < 4; sheet++) {
+            x = new FlagWalk();
             for (int n = 0; n <= 24; n++) {
                 c.due("sheet " + n, x.sheet(sheet, n % 3, n), n);
                 c.due("below 0", x.sheet(sheet, 0, -1), -14);

@@ -2,7 +2,7 @@
 public final class WayTest {
     private static final int[] SHORTEST = {1, 2, 1, 1};
     private static final int[] LONGEST = {20, 20, 20, 50};
-    private static final int LOW = Integer.MIN_VALUE, HIGH = Integer.MAX_VALUE;
+    private static final int LOW = Check.LOW, HIGH = Check.HIGH;
 
     public static void main(String[] args) {
         Check c = new Check("WayTest");
