@@ -90,8 +90,10 @@ public final class EdgeBestTest {
         x.mark(2, 1, 20);
         Check.group(x, "l4");
         // At the WINDOW behind 0 .. 20, at 10 behind 23.
-        none(c, "looking", x, 5);
-        none(c, "looking", x, 22);
+        for (int minute = 1; minute <= 22; minute++) {
+            none(c, "looking", x, minute);
+            c.due("one who looks comes in 23, asked behind " + minute, x.best(23, 2), 0);
+        }
         rule(c, "one who looks comes in 23", x, 23, 1, 0, 0, 0);
     }
 
