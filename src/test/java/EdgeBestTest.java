@@ -95,6 +95,15 @@ public final class EdgeBestTest {
             c.due("one who looks comes in 23, asked behind " + minute, x.best(23, 2), 0);
         }
         rule(c, "one who looks comes in 23", x, 23, 1, 0, 0, 0);
+        FlagWalk y = Check.led(2, 5, 0, 10, 3);
+        y.end(10);
+        y.mark(0, 0, 5);
+        y.person(0, 4, false);
+        // She speaks in 0 .. 4 at 0 by each PACE, and by PACE 1 is at 10 behind 14.
+        for (int minute = 0; minute <= 4; minute++) {
+            none(c, "she speaks", y, minute);
+            rule(c, "there in 14, asked behind " + minute, y, 14, 1, 0, 0, 5);
+        }
     }
 
     private static void bestInTimeByTheLastMinute(Check c) {

@@ -170,7 +170,7 @@ public final class EdgeWalkTest {
         beginNobody(c);
     }
 
-    /** A STOP at 4 of LENGTH 1: she is there behind 0, one with her; one more is NEAR ahead of 3, a third ahead of 5. */
+    /** A STOP at 4 of LENGTH 1: she is there behind 0, one with her; one more is NEAR ahead of 3, one ahead of 5. */
     private static void beginAsMany(Check c) {
         c.sentence("15 all", "if as many as BEGIN (or all that are not LOST) are NEAR");
         int[] leaves = {2, 2, 4, 6, 6};
