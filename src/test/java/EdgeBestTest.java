@@ -244,6 +244,10 @@ public final class EdgeBestTest {
         Check.way(x, "t1:1;w1:2");
         Check.group(x, "l1,p4");
         none(c, "one is LOST by each", x, 299);
+        Check.way(x, "t1:1;w1:20");
+        none(c, "one is LOST as all others are there", x, 299);
+        Check.group(x, "l1");
+        none(c, "the only one is LOST as she is there", x, 299);
     }
 
     private static void bestChangesNothing(Check c) {
