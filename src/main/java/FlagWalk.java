@@ -10,7 +10,7 @@ public final class FlagWalk {
     private static final int PLACES = 100, MARKS = 8, PEOPLE = 10, MINUTES = 300, SHEETS = 4, ITEMS = 24;
     private static final int SIDE = 12, POINTS = 144, FLAGS = 8, GROUPS = 6, TAPE_BYTES = 80;
     private static final int MOST_BEGIN = 10, MOST_STAND_TRIED = 4, FIRST_END = 40, FIRST_VALUE = 10;
-    private static final int FAULT = -20, FAR_BELOW = -100000;
+    private static final int FAULT = -20, FAR_BELOW = -100000, MORE_THAN_ALL_WAIT = 100000;
     // A row of the trail: OUT, the guide, then the people: in the order of what at() is asked for, from -2 on.
     private static final int TRAIL_ROW = 12;
 
@@ -1261,7 +1261,7 @@ public final class FlagWalk {
         }
 
         void seek() {
-            leastWaited = Integer.MAX_VALUE;
+            leastWaited = MORE_THAN_ALL_WAIT;
             sendFrom(this, 0, 0, 0, 0);
         }
 

@@ -168,7 +168,8 @@ public final class BestTest {
             p.people.add(new int[] {1, 1, 1});
             StringBuilder text = new StringBuilder();
             for (int[] one : p.people) {
-                text.append(text.length() == 0 ? "" : ",").append("plot".charAt(one[0])).append(one[1]).append(one[2] == 1 ? "e" : "");
+                text.append(text.length() == 0 ? "" : ",").append("plot".charAt(one[0])).append(one[1]);
+                text.append(one[2] == 1 ? "e" : "");
             }
             Check.group(x, text.toString());
             x.rule(4, p.rules[4]);
@@ -219,15 +220,8 @@ public final class BestTest {
             p.run();
             int together = p.heardTogether();
             for (int i = 0; i < p.people.size(); i++) {
-                int[] one = p.people.get(i);
-                int due = -100002;
-                if (one[0] == 3 || one[2] == 1) {
-                    p.people.set(i, one[0] == 3 ? new int[] {0, one[1], one[2]} : new int[] {one[0], one[1], 0});
-                    p.run();
-                    due = together - p.heardTogether();
-                    p.people.set(i, one);
-                    below += due < 0 ? 1 : 0;
-                }
+                int due = Second.worth(p, i);
+                below += due < 0 && due > -100000 ? 1 : 0;
                 c.due("seed " + seed + " worth(" + i + ")", x.worth(i), due);
             }
             c.due("seed " + seed + " HEARD as it was", x.all(0), together);
@@ -270,36 +264,26 @@ public final class BestTest {
 
     private static void chosenSeed(Check c, Check.Row row, String what) {
         FlagWalk x = new FlagWalk();
+        Second y = new Second();
         int end = row.between(10, 99);
         int pace = row.between(1, 4);
-        int n = row.between(0, 8);
-        int[][] stops = new int[n][];
         x.end(end);
+        y.end(end);
         x.rule(0, pace);
+        y.rule(0, pace);
+        int n = row.between(0, 8);
         for (int i = 0; i < n; i++) {
-            stops[i] = new int[] {10 * i + row.between(0, 9), row.between(1, 20), row.between(0, 12)};
-            x.mark(0, stops[i][0], stops[i][1]);
-            x.value(i, stops[i][2]);
+            int place = 10 * i + row.between(0, 9);
+            int length = row.between(1, 20);
+            int value = row.between(0, 12);
+            x.mark(0, place, length);
+            y.mark(0, place, length);
+            x.value(i, value);
+            y.value(i, value);
         }
         int minutes = row.between(0, 150);
-        int dueSet = -4;
-        int dueValue = -4;
-        for (int set = 0; set < 1 << n; set++) {
-            int time = end / pace + (end % pace == 0 ? 0 : 1);
-            int sum = 0;
-            for (int i = 0; i < n; i++) {
-                if ((set & 1 << i) != 0) {
-                    time += stops[i][0] < end ? stops[i][1] : 5000;
-                    sum += stops[i][2];
-                }
-            }
-            if (time <= minutes && sum > dueValue) {
-                dueSet = set;
-                dueValue = sum;
-            }
-        }
-        c.due(what + " the set", x.chosen(minutes, 0), dueSet);
-        c.due(what + " VALUE", x.chosen(minutes, 1), dueValue);
+        c.due(what + " the set", x.chosen(minutes, 0), y.chosen(minutes, 0));
+        c.due(what + " VALUE", x.chosen(minutes, 1), y.chosen(minutes, 1));
     }
 
     private static void counted(Check c) {
@@ -343,19 +327,6 @@ public final class BestTest {
         return x;
     }
 
-    private static int cost(int n, int k, int c, int m, int e) {
-        int cost = 0;
-        for (int stop = 1; stop <= n; stop++) {
-            cost += stop % k == 0 || stop == n ? 100 * c : 0;
-            int found = stop;
-            while (found % k != 0 && found != n) {
-                found++;
-                cost += e * m;
-            }
-        }
-        return cost;
-    }
-
     private static void countedOf(Check check, int n) {
         for (int c = 0; c <= 9; c++) {
             for (int m = 0; m <= 30; m += 5) {
@@ -363,8 +334,8 @@ public final class BestTest {
                     FlagWalk x = withStops(n);
                     int often = 1;
                     for (int k = 1; k <= 8; k++) {
-                        check.due(n + " STOPS, k " + k, x.counted(k, c, m, e), cost(n, k, c, m, e));
-                        often = cost(n, k, c, m, e) < cost(n, often, c, m, e) ? k : often;
+                        check.due(n + " STOPS, k " + k, x.counted(k, c, m, e), Second.cost(n, k, c, m, e));
+                        often = Second.cost(n, k, c, m, e) < Second.cost(n, often, c, m, e) ? k : often;
                     }
                     check.due(n + " STOPS, often " + c + " " + m + " " + e, x.often(c, m, e), often);
                 }

@@ -101,6 +101,9 @@ final class Check {
 
     /** A row of numbers that is the same in every run. */
     static final class Row {
+        private static final int[] WILD = {LOW, -100001, -3, -2, -1, 0, 1, 24, 25, 99, 100, 143, 144, 299, 300, 999,
+            1000, HIGH};
+
         private long state;
 
         Row(long seed) {
@@ -120,6 +123,11 @@ final class Check {
 
         boolean once(int in) {
             return between(1, in) == 1;
+        }
+
+        /** A number at one of the edges, or far off. */
+        int wild() {
+            return WILD[between(0, WILD.length - 1)];
         }
     }
 }

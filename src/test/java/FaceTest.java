@@ -22,7 +22,8 @@ public final class FaceTest {
         c.due("final", Modifier.isFinal(FlagWalk.class.getModifiers()) ? 1 : 0, 1);
         c.due("constructors", FlagWalk.class.getDeclaredConstructors().length, 1);
         for (Constructor<?> made : FlagWalk.class.getDeclaredConstructors()) {
-            c.due("constructor " + made, made.getParameterCount() == 0 && Modifier.isPublic(made.getModifiers()) ? 1 : 0, 1);
+            boolean open = made.getParameterCount() == 0 && Modifier.isPublic(made.getModifiers());
+            c.due("constructor " + made, open ? 1 : 0, 1);
         }
         List<String> found = new ArrayList<>();
         for (Method m : FlagWalk.class.getDeclaredMethods()) {

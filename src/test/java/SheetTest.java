@@ -225,37 +225,6 @@ public final class SheetTest {
         c.due("from item 1", x.slots(0, 1, 1, 2, -1), 1);
     }
 
-    private static int leastWaited;
-    private static int[] leastOrder;
-
-    private static void orders(int[] items, int from, int[] order, int sent) {
-        int n = order.length;
-        if (sent == n) {
-            int free = 0;
-            int waited = 0;
-            for (int g : order) {
-                int goes = Math.max(free, items[from + 2 * g]);
-                waited += goes - items[from + 2 * g];
-                free = goes + items[from + 2 * g + 1];
-            }
-            if (waited < leastWaited) {
-                leastWaited = waited;
-                leastOrder = order.clone();
-            }
-            return;
-        }
-        for (int g = 0; g < n; g++) {
-            boolean gone = false;
-            for (int k = 0; k < sent; k++) {
-                gone = gone || order[k] == g;
-            }
-            if (!gone) {
-                order[sent] = g;
-                orders(items, from, order, sent + 1);
-            }
-        }
-    }
-
     private static void slotsByTrying(Check c) {
         for (int seed = 1; seed <= 300; seed++) {
             Check.Row row = new Check.Row(30000 + seed);
@@ -269,11 +238,13 @@ public final class SheetTest {
                 items[i] = i % 2 == from % 2 ? row.between(0, latest) : row.between(1, 20);
             }
             put(x, 1, lane, items);
-            leastWaited = Integer.MAX_VALUE;
-            orders(items, from, new int[n], 0);
-            c.due("seed " + seed + " waited", x.slots(1, lane, from, n, -1), leastWaited);
-            for (int k = 0; k < n; k++) {
-                c.due("seed " + seed + " goes " + k, x.slots(1, lane, from, n, k), leastOrder[k]);
+            Second y = new Second();
+            y.sheet(1, lane, items.length);
+            for (int i = 0; i < items.length; i++) {
+                y.item(1, lane, i, items[i]);
+            }
+            for (int k = -1; k < n; k++) {
+                c.due("seed " + seed + " slots " + k, x.slots(1, lane, from, n, k), y.slots(1, lane, from, n, k));
             }
         }
     }

@@ -69,57 +69,25 @@ public final class SquareTest {
         c.due("the other slant", y.stand(0), 144 - 1 - 4);
     }
 
-    private static boolean hidden(int[] signs, int a, int b) {
-        int dx = b % 12 - a % 12;
-        int dy = b / 12 - a / 12;
-        if (dx != 0 && dy != 0 && Math.abs(dx) != Math.abs(dy)) {
-            return false;
-        }
-        int steps = Math.max(Math.abs(dx), Math.abs(dy));
-        for (int s = 1; s < steps; s++) {
-            if (signs[12 * (a / 12 + s * dy / steps) + a % 12 + s * dx / steps] == 1) {
-                return true;
-            }
-        }
-        return false;
-    }
-
     private static void standByLooking(Check c) {
         for (int seed = 1; seed <= 400; seed++) {
             Check.Row row = new Check.Row(80000 + seed);
             FlagWalk x = new FlagWalk();
-            int[] signs = new int[144];
+            Second y = new Second();
             int reach = row.between(1, row.once(2) ? 20 : 6);
             x.rule(4, reach);
+            y.rule(4, reach);
             int low = row.between(0, 7);
             int high = row.between(low, 11);
             int set = row.between(0, 25);
             for (int i = 0; i < set; i++) {
                 int point = row.once(2) ? row.between(0, 143) : 12 * row.between(low, high) + row.between(low, high);
-                signs[point] = row.between(0, 2);
-                x.square(point, signs[point]);
-            }
-            int[] due = {0, -4, -4};
-            for (int point = 0; point < 144; point++) {
-                int far = 0;
-                boolean all = signs[point] != 1;
-                for (int other = 0; other < 144; other++) {
-                    if (signs[other] == 2) {
-                        int off = Math.max(Math.abs(point % 12 - other % 12), Math.abs(point / 12 - other / 12));
-                        far = Math.max(far, off);
-                        all = all && off <= reach && !hidden(signs, point, other);
-                    }
-                }
-                if (all) {
-                    due[0]++;
-                    if (due[1] < 0 || far < due[2]) {
-                        due[1] = point;
-                        due[2] = far;
-                    }
-                }
+                int sign = row.between(0, 2);
+                x.square(point, sign);
+                y.square(point, sign);
             }
             for (int what = 0; what < 3; what++) {
-                c.due("seed " + seed + " stand(" + what + ")", x.stand(what), due[what]);
+                c.due("seed " + seed + " stand(" + what + ")", x.stand(what), y.stand(what));
             }
         }
     }
@@ -151,51 +119,14 @@ public final class SquareTest {
     private static void coloursByTrying(Check c) {
         for (int seed = 1; seed <= 400; seed++) {
             FlagWalk x = new FlagWalk();
+            Second y = new Second();
             Check.Row row = new Check.Row(90000 + seed);
-            int n = row.between(1, 6);
+            int n = row.between(1, row.once(8) ? 8 : 6);
             int pairs = row.between(0, (1 << n * (n - 1) / 2) - 1);
-            int[] due = firstRow(n, pairs);
-            int fewest = 0;
-            for (int i = 0; i < n; i++) {
-                c.due("seed " + seed + " FLAG " + i, x.colours(n, pairs, i), due[i]);
-                fewest = Math.max(fewest, due[i] + 1);
-            }
-            c.due("seed " + seed + " fewest", x.colours(n, pairs, -1), fewest);
-        }
-    }
-
-    private static int[] firstRow(int n, int pairs) {
-        for (int most = 1; most <= n; most++) {
-            int rows = 1;
-            for (int i = 0; i < n; i++) {
-                rows *= most;
-            }
-            for (int number = 0; number < rows; number++) {
-                int[] row = new int[n];
-                int rest = number;
-                for (int i = n - 1; i >= 0; i--) {
-                    row[i] = rest % most;
-                    rest /= most;
-                }
-                if (unlike(n, pairs, row)) {
-                    return row;
-                }
+            for (int i = -1; i < n; i++) {
+                c.due("seed " + seed + " FLAG " + i, x.colours(n, pairs, i), y.colours(n, pairs, i));
             }
         }
-        throw new IllegalStateException();
-    }
-
-    private static boolean unlike(int n, int pairs, int[] row) {
-        int rest = pairs;
-        for (int a = 0; a < n; a++) {
-            for (int b = a + 1; b < n; b++) {
-                if (rest % 2 == 1 && row[a] == row[b]) {
-                    return false;
-                }
-                rest /= 2;
-            }
-        }
-        return true;
     }
 
     private static void images(Check c) {

@@ -3,10 +3,9 @@
  * refused changes nothing.
  */
 public final class StrainTest {
-    private static final int[] WILD = {Integer.MIN_VALUE, -100001, -3, -2, -1, 0, 1, 24, 25, 99, 100, 143, 144, 299, 300,
-        999, 1000, Integer.MAX_VALUE};
     private static final String SIGNS = "slwtpoe:;, 0123456789";
-    private static final String[] TEXTS = {"s3:2;l5:4", "w7:3;t8:2", "s9:4", "p1,l2e", "o3,t4", "p2e,p3", ";s1:1", ",o2"};
+    private static final String[] TEXTS = {"s3:2;l5:4", "w7:3;t8:2", "s9:4", "p1,l2e", "o3,t4", "p2e,p3", ";s1:1",
+        ",o2"};
     private static final int CALLS = 29, TYPE = 7, WAY = 8, GROUP = 9;
 
     public static void main(String[] args) {
@@ -35,7 +34,7 @@ public final class StrainTest {
     }
 
     private static int some(Check.Row r, int least, int most) {
-        return r.once(25) ? WILD[r.between(0, WILD.length - 1)] : r.between(least, most);
+        return r.once(25) ? r.wild() : r.between(least, most);
     }
 
     private static int call(FlagWalk x, int which, Check.Row r) {

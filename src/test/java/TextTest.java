@@ -63,7 +63,8 @@ public final class TextTest {
         c.due("t", x.told(3, 0, 1), 50);
         c.due("no l", x.count(1), 0);
         c.due("no w", x.count(2), 0);
-        c.due("many 0s", Check.way(x, "l00000000000000000000000000000000000005:00000000000000000000000000000000000002"), 1);
+        String many = "0000000000000000000000000000000000000";
+        c.due("many 0s", Check.way(x, "l" + many + "5:" + many + "2"), 1);
         c.due("l", x.told(1, 0, 0), 5);
         c.due("l", x.told(1, 0, 1), 2);
         c.due("the first in the row first", Check.way(x, "w9:1;w3:2"), 2);
